@@ -970,28 +970,26 @@ public final class SlidingRanks {
                 case LINE_END_NEXT:
                     takeLineEnd(first);
                     break;
+                case WHOLE_NEXT:
+                    takeWhole();
+                    break;
+                case FRACTION_NEXT:
+                    takeFraction();
+                    break;
                 default:
-                    takeOfReading(first);
+                    takeReadingOrMore(first);
                     break;
             }
         }
 
-        private void takeOfReading(int first) {
-            if (wanted == WHOLE_NEXT) {
-                takeWhole();
-            } else if (wanted == FRACTION_NEXT) {
-                takeFraction();
-            } else if (wanted == POINT_NEXT && first == '.') {
+        /** Where a READING may begin, or (not behind put) the line may end, or (behind a whole part) a point may stand. */
+        private void takeReadingOrMore(int first) {
+            boolean minus = first == '-';
+            if (wanted == POINT_NEXT && first == '.') {
                 wanted = FRACTION_NEXT;
             } else if (wanted != READING_NEXT && first == ';') {
                 wanted = LINE_NEXT;
-            } else {
-                startReading(first == '-');
-            }
-        }
-
-        private void startReading(boolean minus) {
-            if (!minus && kind != NUMBER && name != MISS_NAME) {
+            } else if (!minus && kind != NUMBER && name != MISS_NAME) {
                 refuse(OUT_OF_PLACE);
             } else if (draft.isFull()) {
                 refuse(TOO_MANY);
@@ -1000,9 +998,8 @@ public final class SlidingRanks {
                 wanted = MORE_NEXT;
             } else {
                 negative = minus;
-                if (minus) {
-                    wanted = WHOLE_NEXT;
-                } else {
+                wanted = WHOLE_NEXT;
+                if (!minus) {
                     takeWhole();
                 }
             }
