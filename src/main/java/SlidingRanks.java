@@ -407,14 +407,14 @@ public final class SlidingRanks {
         int had = now.size;
         int tear = 0;
         int came = 0;
-        while (came < n && tear == 0) {
+        for (; came < n; came++) {
             tear = tearAt(sheets[k], lane, f + came);
-            if (tear == 0) {
-                if (add(cellOf(sheets[k], f + came)) < 0) {
-                    now.size = had;
-                    return -20 - came;
-                }
-                came++;
+            if (tear != 0) {
+                break;
+            }
+            if (add(cellOf(sheets[k], f + came)) < 0) {
+                now.size = had;
+                return -20 - came;
             }
         }
         latestTear = tear;
@@ -663,7 +663,7 @@ public final class SlidingRanks {
 
         private void takeOut(int v) {
             int i = countLess(v);
-            if (v == NOTHING || i >= n) {
+            if (i >= n || x[i] != v) {
                 return;
             }
             n--;

@@ -52,6 +52,7 @@ public final class PromisesTest {
         promise33Refused();
         promise34();
         promise35();
+        scansAfterOtherRows();
         Due.close();
     }
 
@@ -155,8 +156,8 @@ public final class PromisesTest {
     }
 
     private static void promise4Readings() {
-        SlidingRanks x = Due.of("put 0 -0 9999.99 -9999.99 1.5 1.05 1.50 -0.07 -0.7 miss 12 . 3 - 4miss0012;");
-        int[] want = {0, 0, 999999, -999999, 150, 105, 150, -7, -70, NOTHING, 1230, -400, NOTHING, 1200};
+        SlidingRanks x = Due.of("put 0 -0 9999.99 -9999.99 1.5 1.05 1.50 -0.07 -0.7 miss 12 . 3 - 4miss0012 8.0 8.00;");
+        int[] want = {0, 0, 999999, -999999, 150, 105, 150, -7, -70, NOTHING, 1230, -400, NOTHING, 1200, 800, 800};
         Due.is("readings", x.rule(0), want.length);
         for (int t = 0; t < want.length; t++) {
             Due.is("reading(" + t + ")", x.reading(t), want[t]);
@@ -175,6 +176,15 @@ public final class PromisesTest {
     private static void promise4And5Faults() {
         String full = "put" + " 1".repeat(96);
         fault("$", 1, 0);
+        fault("\0", 1, 0);
+        fault("put 1;\0", 1, 6);
+        fault("{", 1, 0);
+        fault("`", 1, 0);
+        fault("/", 1, 0);
+        fault(":", 1, 0);
+        fault("z", 2, 0);
+        fault("putz 1;", 2, 0);
+        fault("aput 1;", 2, 0);
         fault("put 1 +2;", 1, 6);
         fault("put 1;\n", 1, 6);
         fault("Put 1;", 1, 0);
@@ -407,6 +417,9 @@ public final class PromisesTest {
         Due.is("less than 301", x.rank(6, 301, 0), 3);
         Due.is("are 301", x.rank(6, 301, 1), 0);
         Due.is("less than -5", x.rank(6, -5, 0), 0);
+        Due.is("are -5, the first", x.rank(6, -5, 1), 1);
+        Due.is("are 725, the last", x.rank(6, 725, 1), 1);
+        Due.is("are 300 of another row", x.rank(0, 300, 1), 0);
         Due.is("less than the greatest", x.rank(6, GREATEST, 0), 4);
         Due.is("less than the least", x.rank(6, LEAST, 0), 0);
         Due.is("missing ones are not there", x.rank(8, NOTHING, 1), 0);
@@ -475,6 +488,10 @@ public final class PromisesTest {
         x = Due.of("width 7;put 0.1 0.11 0.12 0.2 0.5 0.6 0.9;");
         Due.is("middle of seven", x.middle(6, 0), 20);
         Due.is("spread of seven: 0 8 9 10 30 40 70", x.middle(6, 1), 10);
+        x = Due.of("width 5;put 1 2 3 3.1 3.3;");
+        Due.is("spread of five: 0 10 30 100 200", x.middle(4, 1), 30);
+        x = Due.of("width 5;put 2.7 2.9 3 9 8;");
+        Due.is("spread of five: 0 10 30 500 600", x.middle(4, 1), 30);
         x = Due.of("width 5;put -9999.99 -9999.99 9999.99 9999.99 -9999.99;");
         Due.is("spread of three below", x.middle(4, 1), 0);
         Due.is("the part and rule are not asked", Due.of("part 1 1;rule high;put 1 2 3;").middle(2, 0), 200);
@@ -732,6 +749,11 @@ public final class PromisesTest {
         Due.is("drift where none has room", x.drift(1, 1), 0);
         Due.is("drift where none has room, bad", x.drift(1, 49), BAD);
         x.drop(96);
+        x.drift(1, 1);
+        Due.is("none ahead: got 16838, 1052 modulo 401 is 250, less 200", x.reading(0), 50);
+        x.drift(1, 1);
+        Due.is("the one just ahead", x.reading(1), 100);
+        x.drop(2);
         x.add(-999999);
         int bounded = 0;
         for (int i = 0; i < 30; i++) {
@@ -947,5 +969,25 @@ public final class PromisesTest {
         Due.is("1, none, -2.5", x.count(3), 9);
         Due.is("count(4)", x.count(4), BAD);
         Due.is("count(-1)", x.count(-1), BAD);
+    }
+
+    /** What goes over all READINGS is the same whatever row was asked for before. */
+    private static void scansAfterOtherRows() {
+        SlidingRanks x = Due.of("width 2;need 2;put 4 3 9 1 miss 5 5 5 8 1;");
+        for (int t = 0; t < 10; t++) {
+            String when = " after row(" + t + ", 0)";
+            x.row(t, 0);
+            Due.is("rule(8)" + when, x.rule(8), 7);
+            x.row(t, 0);
+            Due.is("most(0)" + when, x.most(0), 3);
+            x.row(t, 0);
+            Due.is("most(1)" + when, x.most(1), 6);
+            x.row(t, 0);
+            Due.is("above(300, 0)" + when, x.above(300, 0), 3);
+            x.row(t, 0);
+            Due.is("fars(1)" + when, x.fars(1), 2);
+            x.row(t, 0);
+            Due.is("count(3)" + when, x.count(3), 19);
+        }
     }
 }
