@@ -53,6 +53,7 @@ public final class PromisesTest {
         promise34();
         promise35();
         scansAfterOtherRows();
+        refusedChangesNothing();
         Due.close();
     }
 
@@ -989,5 +990,34 @@ public final class PromisesTest {
             x.row(t, 0);
             Due.is("count(3)" + when, x.count(3), 19);
         }
+    }
+
+    private static void refusedChangesNothing() {
+        SlidingRanks x = Due.of(TOLD + "part 3 8;rule near;form cents;");
+        Due.text(x, "width 99;");
+        x.keep(1);
+        x.sheet(0, 2, 3);
+        x.lay(0, 1, 1000000);
+        x.read(1, 0, 0, 1);
+        x.feed(65);
+        String before = Due.all(x);
+        int[] wrong = {LEAST, -1000000, -1, 101, 1000000, GREATEST};
+        for (int v : wrong) {
+            int[] answers = {x.end(v), x.rule(v), x.row(v, 0), x.rank(v, 0, 0), x.shown(v, 0), x.far(v, 1), x.fars(v),
+                x.above(0, v), x.most(v), x.set(v, 0), x.lose(v), x.drop(v), x.width(v), x.need(v), x.part(v, v),
+                x.choose(v), x.form(v), x.drift(0, v), x.keep(v), x.back(v), x.sheet(v, 0, 1), x.sheet(0, v, 1),
+                x.lay(v, 0, 0), x.read(v, 2, 0, 1), x.read(0, v, 0, 1), x.read(0, 2, 0, v), x.count(v)};
+            for (int i = 0; i < answers.length; i++) {
+                Due.is("wrong call " + i + " with " + v, answers[i], BAD);
+            }
+        }
+        Due.is("feed(128)", x.feed(128), BAD);
+        Due.is("add(1000000)", x.add(1000000), BAD);
+        Due.is("back(0)", x.back(0), STATE);
+        Due.is("sheet(0, 0, -1)", x.sheet(0, 0, -1), -14);
+        Due.is("lay(0, 3, 0)", x.lay(0, 3, 0), -12);
+        Due.is("read(0, 2, 0, 2)", x.read(0, 2, 0, 2), -21);
+        String after = Due.all(x);
+        Due.holds("was " + before + ", is " + after, after.equals(before));
     }
 }
