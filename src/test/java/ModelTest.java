@@ -4,7 +4,8 @@ import java.util.Random;
 
 /** Long random runs of calls, the class and the Model side by side, with an answer compared at each call. */
 public final class ModelTest {
-    private static final int RUNS = 3000;
+    private static final int RUNS = 6000;
+    /** The document tells nothing of an object after so many calls. */
     private static final int MOST_CALLS = 512;
     private static final int MOST_TOLD = 5;
     private static final String[] WORDS = {"width", "need", "part", "rule", "form", "put", "miss", "low", "high", "near",
@@ -15,6 +16,7 @@ public final class ModelTest {
     private SlidingRanks x = new SlidingRanks();
     private Model model = new Model();
     private final List<String> calls = new ArrayList<>();
+    private int made = 0;
     private boolean same = true;
 
     private ModelTest(long seed) {
@@ -38,7 +40,8 @@ public final class ModelTest {
 
     private boolean isRunSame() {
         boolean small = random.nextBoolean();
-        while (calls.size() < MOST_CALLS && same) {
+        // A pick makes two calls at most, but for a text, which looks for room itself.
+        while (made + 2 <= MOST_CALLS && same) {
             int pick = random.nextInt(100);
             if (pick < 8) {
                 tellText();
@@ -54,6 +57,7 @@ public final class ModelTest {
     }
 
     private void compare(String call, int got, int want) {
+        made++;
         calls.add(call + " " + got);
         if (got != want) {
             same = false;
@@ -80,14 +84,10 @@ public final class ModelTest {
     }
 
     private int place() {
-        return around(0, Math.max(0, x.rule(0) - 1));
+        return around(0, Math.max(0, model.rule(0) - 1));
     }
 
     private void tellText() {
-        if (rarely()) {
-            int n = around(0, Math.max(0, x.count(1)));
-            compare("end(" + n + ")", x.end(n), model.end(n));
-        }
         StringBuilder told = new StringBuilder();
         int lines = random.nextInt(6);
         for (int i = 0; i < lines; i++) {
@@ -96,13 +96,21 @@ public final class ModelTest {
         if (random.nextInt(3) == 0 && told.length() > 0) {
             spoil(told);
         }
-        for (int i = 0; i < told.length(); i++) {
-            int c = told.charAt(i);
-            if (x.feed(c) != model.feed(c)) {
-                compare("feed(" + c + ")", x.count(1), model.count(1));
-            }
+        if (made + told.length() + 3 > MOST_CALLS) {
+            return;
         }
-        compare("text '" + told + "'", x.text(), model.text());
+        for (int i = 0; i < told.length() && same; i++) {
+            int c = told.charAt(i);
+            compare("feed(" + c + ")", x.feed(c), model.feed(c));
+        }
+        if (random.nextInt(4) == 0) {
+            int n = around(0, model.count(1));
+            compare("end(" + n + ")", x.end(n), model.end(n));
+        }
+        if (rarely()) {
+            return;
+        }
+        compare("text()", x.text(), model.text());
         compare("fault()", x.fault(), model.fault());
     }
 
@@ -229,7 +237,7 @@ public final class ModelTest {
 
     private void ask() {
         int t = place();
-        int v = rarely() || x.rule(8) == 0 ? hundredths(false) : x.reading(place());
+        int v = rarely() || model.rule(8) == 0 ? hundredths(false) : model.reading(place());
         int what = around(0, 3);
         switch (random.nextInt(13)) {
             case 0 -> {

@@ -532,11 +532,12 @@ public final class PromisesTest {
         Due.is("fars(21)", x.fars(21), BAD);
         Due.is("fars(-1)", x.fars(-1), BAD);
         Due.is("fars of none", new SlidingRanks().fars(1), 0);
-        x.drift(3, 48);
-        x.drift(4, 48);
         for (int k = 1; k <= 20; k++) {
+            x = new SlidingRanks();
+            x.drift(3, 48);
+            x.drift(4, 48);
             int far = 0;
-            for (int t = 0; t < x.rule(0); t++) {
+            for (int t = 0; t < 96; t++) {
                 far += x.far(t, k);
             }
             Due.is("fars(" + k + ") as by far", x.fars(k), far);
