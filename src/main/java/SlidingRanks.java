@@ -15,8 +15,6 @@ public final class SlidingRanks {
     private static final int MOST_DRIFT = 48;
     private static final int MOST_CELLS = 40;
     private static final int TAPE_BYTES = 320;
-    private static final int IMAGES = 2;
-    private static final int SHEETS = 4;
 
     private static final int LOW = 0, HIGH = 1, NEAR = 2, MEAN = 3, LINE = 4;
     private static final int PLAIN = 0, CENTS = 1, SIGN = 2;
@@ -29,8 +27,8 @@ public final class SlidingRanks {
     private final Row ordered = new Row(now);
     private final Words words = new Words();
     private final Series[] images = {new Series(), new Series()};
-    private final boolean[] kept = new boolean[IMAGES];
-    private final Sheet[] sheets = new Sheet[SHEETS];
+    private final boolean[] kept = {false, false};
+    private final Sheet[] sheets = {new Sheet(), new Sheet(), new Sheet(), new Sheet()};
     private int latestTear = 0;
 
     public SlidingRanks() {
@@ -381,7 +379,7 @@ public final class SlidingRanks {
         if (n < 0) {
             return -10 - SIZE_FAULT;
         }
-        sheets[k] = new Sheet(lane, n);
+        sheets[k].renew(lane, n);
         return 1;
     }
 
@@ -390,7 +388,7 @@ public final class SlidingRanks {
             return BAD;
         }
         Sheet laid = sheets[k];
-        if (laid == null) {
+        if (laid.isNothing()) {
             return -10 - NULL_FAULT;
         }
         if (!laid.hasCell(i)) {
@@ -412,7 +410,7 @@ public final class SlidingRanks {
             if (tear != 0) {
                 break;
             }
-            if (add(cellOf(sheets[k], f + came)) < 0) {
+            if (add(sheets[k].valueAt(f + came)) < 0) {
                 now.size = had;
                 return -20 - came;
             }
@@ -432,7 +430,7 @@ public final class SlidingRanks {
             case 1:
                 return tape.length;
             case 2:
-                return sheets[0] == null ? NONE : sheets[0].cells.length;
+                return sheets[0].isNothing() ? NONE : sheets[0].size;
             case 3:
                 return countShownBytes();
             default:
@@ -450,12 +448,12 @@ public final class SlidingRanks {
         return k >= 1 && k <= MOST_FACTOR;
     }
 
-    private static boolean isImage(int k) {
-        return k >= 0 && k < IMAGES;
+    private boolean isImage(int k) {
+        return k >= 0 && k < kept.length && k < images.length;
     }
 
-    private static boolean isSheet(int k) {
-        return k >= 0 && k < SHEETS;
+    private boolean isSheet(int k) {
+        return k >= 0 && k < sheets.length;
     }
 
     private static boolean isLane(int lane) {
@@ -519,17 +517,13 @@ public final class SlidingRanks {
 
     /** What the machine would find at a CELL; the order is its own: null passes a cast, and a cast comes ahead of an index. */
     private static int tearAt(Sheet from, int lane, int i) {
-        if (from == null) {
+        if (from.isNothing()) {
             return NULL_FAULT;
         }
         if (from.lane != lane) {
             return CAST_FAULT;
         }
         return from.hasCell(i) ? 0 : INDEX_FAULT;
-    }
-
-    private static int cellOf(Sheet from, int i) {
-        return from != null && from.hasCell(i) ? from.cells[i] : 0;
     }
 
     /** What a text tells and an IMAGE keeps: READINGS, WIDTH, NEED, PART, RULE, FORM. */
@@ -839,18 +833,35 @@ public final class SlidingRanks {
         }
     }
 
-    /** A SHEET that is something: its CELLS hold what a BYTE, a SHORT or an INT would. */
+    /**
+     * A SHEET: its CELLS hold what a BYTE, a SHORT or an INT would. Its row is as long as any may be and is used
+     * again by each sheet(), so that no call makes anything.
+     */
     private static final class Sheet {
-        private final int lane;
-        private final int[] cells;
+        private static final int NO_ROW = -1;
 
-        Sheet(int lane, int size) {
-            this.lane = lane;
-            this.cells = new int[Math.max(0, size)];
+        private final int[] cells = new int[MOST_CELLS];
+        private int lane = BYTES;
+        private int size = NO_ROW;
+
+        boolean isNothing() {
+            return size == NO_ROW;
+        }
+
+        void renew(int newLane, int newSize) {
+            lane = newLane;
+            size = newSize < 0 ? NO_ROW : Math.min(newSize, cells.length);
+            for (int i = 0; i < cells.length; i++) {
+                cells[i] = 0;
+            }
         }
 
         boolean hasCell(int i) {
-            return i >= 0 && i < cells.length;
+            return i >= 0 && i < size && i < cells.length;
+        }
+
+        int valueAt(int i) {
+            return hasCell(i) ? cells[i] : 0;
         }
 
         void write(int i, int v) {

@@ -111,7 +111,7 @@ public final class LanguageTest {
         }
     }
 
-    /** No call but sheet() makes anything, so that a run's room is what its objects and sheets take. */
+    /** No call makes anything, so that a run's room is what its objects take when they are made. */
     private static void checkRoom() {
         com.sun.management.ThreadMXBean room =
                 (com.sun.management.ThreadMXBean) java.lang.management.ManagementFactory.getThreadMXBean();
@@ -153,6 +153,10 @@ public final class LanguageTest {
         x.keep(i);
         x.back(i);
         x.lay(0, i, i);
+        x.sheet(1, 1, i);
+        x.read(0, 2, i, 1);
+        x.drop(2);
+        x.drift(i, 1);
         x.count(3);
         x.count(i);
         x.torn();

@@ -1219,6 +1219,7 @@ final class PromiseSentences {
             Due.is("CELL 0 by its lane", x.read(0, 0, 0, 1), 1);
             Due.is("0", x.reading(40), 0);
             Due.is("the others have nothing still", x.lay(3, 0, 9), -11);
+            shorterThenLonger();
         });
         Sentences.says("BAD: also n above 40;", () -> {
             SlidingRanks x = new SlidingRanks();
@@ -1254,6 +1255,29 @@ final class PromiseSentences {
             Due.is("the SHEET stays", x.read(0, 2, 2, 1), 1);
             Due.is("with its CELLS", x.reading(0), 9);
         });
+    }
+
+    /** Of a row that was longer nothing is left: not behind a shorter one, nor in a longer one after that. */
+    private static void shorterThenLonger() {
+        for (int lane = 0; lane < 3; lane++) {
+            SlidingRanks x = new SlidingRanks();
+            x.sheet(2, 2, 40);
+            for (int i = 0; i < 40; i++) {
+                x.lay(2, i, 9);
+            }
+            Due.is("shorter", x.sheet(2, lane, 3), 1);
+            Due.is("CELL 3 is none to lay", x.lay(2, 3, 7), -12);
+            Due.is("CELL 3 is none to read", x.read(2, lane, 3, 1), 0);
+            Due.is("INDEX", x.torn(), 2);
+            Due.is("longer", x.sheet(2, lane, 40), 1);
+            Due.is("all are read", x.read(2, lane, 0, 40), 40);
+            for (int i = 0; i < 40; i++) {
+                Due.is("CELL " + i + " of the longer", x.reading(i), 0);
+            }
+            Due.is("no CELLS", x.sheet(2, lane, 0), 1);
+            Due.is("none to read", x.read(2, lane, 0, 1), 0);
+            Due.is("INDEX, not NULL", x.torn(), 2);
+        }
     }
 
     /** What a CELL of a lane holds of v, seen by read(). */
